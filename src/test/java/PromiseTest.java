@@ -1,11 +1,7 @@
 import java.util.function.IntBinaryOperator;
-import java.util.function.IntConsumer;
 
 /** Each promise of the document by itself: ordinary inputs, the edges, wrong inputs. */
-public final class PromiseTest {
-  private static final int MIN = Integer.MIN_VALUE;
-  private static final int MAX = Integer.MAX_VALUE;
-
+public final class PromiseTest extends Stores {
   public static void main(String[] args) {
     promise1();
     promise2();
@@ -44,67 +40,8 @@ public final class PromiseTest {
     promise30();
     promise31();
     callsThatThrowChangeNothing();
+    callsThatThrowInABatchChangeNothing();
     Checks.close();
-  }
-
-  // ---- stores to begin with
-
-  /** A store with a batch that has put some keys, each with ten times itself. */
-  private static Copperleaf batchWith(int... keys) {
-    Copperleaf store = new Copperleaf();
-    store.beginBatch();
-    putAll(store, keys);
-    return store;
-  }
-
-  private static Copperleaf committedWith(int... keys) {
-    Copperleaf store = batchWith(keys);
-    store.commit();
-    return store;
-  }
-
-  private static void putAll(Copperleaf store, int... keys) {
-    for (int key : keys) {
-      store.put(key, 10 * key);
-    }
-  }
-
-  private static int[] upTo(int count) {
-    int[] keys = new int[count];
-    for (int key = 0; key < count; key++) {
-      keys[key] = key;
-    }
-    return keys;
-  }
-
-  private static void commitPut(Copperleaf store, int key) {
-    store.beginBatch();
-    store.put(key, 10 * key);
-    store.commit();
-  }
-
-  /** A page in one line: its number and its keys, and for an inner page in brackets those below. */
-  private static String tree(Copperleaf store, int page) {
-    StringBuilder text = new StringBuilder().append(page).append('(');
-    for (int entry = 0; entry < store.entries(page); entry++) {
-      int below = store.pageAt(page, entry);
-      text.append(entry == 0 ? "" : " ");
-      text.append(below == Copperleaf.NONE ? "" + store.keyAt(page, entry) : tree(store, below));
-    }
-    return text.append(')').toString();
-  }
-
-  private static void dueTree(String what, Copperleaf store, int view, String due) {
-    Checks.due(what, tree(store, store.rootOf(view)), due);
-  }
-
-  /** Which of the pages from 0 to 19 are free. */
-  private static String free(Copperleaf store) {
-    StringBuilder text = new StringBuilder();
-    for (int page = 0; page < 20; page++) {
-      text.append(store.isFree(page) ? "." : "x");
-    }
-    return text.toString();
   }
 
   // ---- the promises
@@ -277,21 +214,6 @@ public final class PromiseTest {
             + " 7(4(17 18) 2(19 20)))");
   }
 
-  /** A store of three levels with a batch that has written nothing. */
-  private static Copperleaf descending() {
-    Copperleaf store = new Copperleaf();
-    store.beginBatch();
-    for (int key = 20; key > 0; key--) {
-      putAll(store, key);
-    }
-    store.commit();
-    store.beginBatch();
-    dueTree("5: three levels", store, -1,
-        "8(3(1(1 2 3 4) 13(5 6) 12(7 8)) 14(10(9 10) 9(11 12)) 11(6(13 14) 5(15 16))"
-            + " 7(4(17 18) 2(19 20)))");
-    return store;
-  }
-
   private static void promise5Joins() {
     Copperleaf store = committedWith(10, 20, 30, 40, 50, 60, 70, 80);
     dueTree("5: three leaves", store, -1, "3(1(10 20 30) 2(40 50 60) 4(70 80))");
@@ -369,12 +291,6 @@ public final class PromiseTest {
     Checks.due("6: and the torn one stays torn", store.slotWord(1, 3), -1);
     commitPut(store, 61);
     Checks.due("6: until its turn", store.isWhole(1), true);
-  }
-
-  private static void dueWords(String what, Copperleaf store, int slot, long... words) {
-    for (int word = 0; word < 4; word++) {
-      Checks.due(what + ", word " + word, store.slotWord(slot, word), words[word]);
-    }
   }
 
   private static void promise7() {
@@ -497,22 +413,6 @@ public final class PromiseTest {
     Checks.due("11: the current state has it though its slot is torn", torn.heldBy(0), 0);
     torn.commit();
     Checks.due("11: now the reader alone", torn.heldBy(0), 1);
-  }
-
-  private static void noSuchViews(String what, IntConsumer call) {
-    for (int view : new int[] {-2, 1, 2, 3, 4, MIN, MAX}) {
-      Checks.bounds(what + " of view " + view, () -> call.accept(view));
-    }
-  }
-
-  /** A store whose reader 0 has the keys 10 to 50 and whose batch has put 60 and deleted 10 too. */
-  private static Copperleaf twoTrees() {
-    Copperleaf store = committedWith(10, 20, 30, 40, 50);
-    store.openReader();
-    store.beginBatch();
-    store.put(60, 1);
-    store.delete(10);
-    return store;
   }
 
   private static void promise12() {
@@ -976,22 +876,6 @@ public final class PromiseTest {
     Checks.due(what + ", free pages", free(store), inUse + ".................");
   }
 
-  /** All that can be seen of a store, in one line. */
-  private static String look(Copperleaf store) {
-    StringBuilder text = new StringBuilder(free(store));
-    text.append(store.hasBatch()).append(store.currentSlot()).append(store.readers());
-    for (int view = -1; view < store.readers(); view++) {
-      text.append(' ').append(store.epochOf(view)).append(tree(store, store.rootOf(view)));
-      for (int key = store.next(view, 0); key >= 0; key = store.next(view, key + 1)) {
-        text.append(',').append(store.get(view, key));
-      }
-    }
-    for (int place = 0; place < 8; place++) {
-      text.append(' ').append(store.slotWord(place / 4, place % 4));
-    }
-    return text.toString();
-  }
-
   private static void callsThatThrowChangeNothing() {
     Copperleaf store = committedWith(10, 20, 30, 40, 50);
     store.openReader();
@@ -1006,6 +890,12 @@ public final class PromiseTest {
     Checks.bounds("tear", () -> store.tear(2));
     Checks.bounds("closeReader", () -> store.closeReader(1));
     Checks.due("after calls that throw", look(store), idle);
+  }
+
+  private static void callsThatThrowInABatchChangeNothing() {
+    Copperleaf store = committedWith(10, 20, 30, 40, 50);
+    store.openReader();
+    store.tear(1);
     store.beginBatch();
     store.openReader();
     store.openReader();
